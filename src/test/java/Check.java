@@ -1,8 +1,16 @@
+import java.io.IOException;
+import java.io.UncheckedIOException;
+import java.nio.file.Files;
+import java.nio.file.Path;
+import java.util.Arrays;
+
 /** Counts the answers that are not due, and tells them. */
 final class Check {
     interface Call {
         Object run();
     }
+
+    private static final Path DOCUMENT = Path.of("../shared/DOC.md");
 
     private final String name;
     private int asked = 0;
@@ -15,6 +23,30 @@ final class Check {
 
     void part(String what) {
         part = what;
+    }
+
+    /** What is asked from here on is asked for these words, which must stand in that section of the document. */
+    void sentence(String section, String words) {
+        part = section + ", \"" + words + "\"";
+        due("the words stand in the document", true, () -> sectionOf(section).contains(words));
+    }
+
+    private static String sectionOf(String title) {
+        try {
+            for (String section : Files.readString(DOCUMENT).split("\n## ")) {
+                if (section.startsWith(title)) {
+                    return section.replaceAll("\\s+", " ");
+                }
+            }
+            return "";
+        } catch (IOException e) {
+            throw new UncheckedIOException(e);
+        }
+    }
+
+    /** A row of numbers as a text, so that rows can be due. */
+    static String row(int... numbers) {
+        return Arrays.toString(numbers);
     }
 
     /** What a call answers, as a text; an exception as "throws.Name". */

@@ -33,69 +33,9 @@ public final class PromisesTest {
         check.end();
     }
 
-    // Calls that answer nothing answer 0 here, so that they can be asked like the others.
-    private static int call(MessageBank x, int line, int box, int kind) {
-        x.call(line, box, kind);
-        return 0;
-    }
-
-    private static boolean frame(MessageBank x, int line, int value) {
-        boolean ended = false;
-        for (int i = 0; i < 8; i++) {
-            ended = x.sample(line, value);
-        }
-        return ended;
-    }
-
-    private static boolean frames(MessageBank x, int line, int value, int n) {
-        boolean ended = false;
-        for (int i = 0; i < n; i++) {
-            ended = frame(x, line, value);
-        }
-        return ended;
-    }
-
-    private static int note(MessageBank x, int line, int box, int kind, int value, int frames) {
-        x.call(line, box, kind);
-        frames(x, line, value, frames);
-        return x.hang(line);
-    }
-
-    private static int shortNote(MessageBank x, int box, int kind) {
-        x.call(0, box, kind);
-        x.sample(0, 90);
-        return x.hang(0);
-    }
-
-    private static MessageBank withBoxes(int... quotas) {
-        MessageBank x = new MessageBank();
-        for (int q : quotas) {
-            x.box(q);
-        }
-        return x;
-    }
-
-    /** All forty blocks used, one by each recording: 16 messages, 15 prefaces of theirs, and 9 of boxes. */
-    private static MessageBank withoutFreeBlocks() {
-        MessageBank x = withBoxes(500, 500, 500, 500);
-        for (int i = 0; i < 15; i++) {
-            shortNote(x, 0, 3);
-            int first = shortNote(x, 0, 0);
-            x.forward(first, i % 4);
-            x.erase(first);
-        }
-        shortNote(x, 0, 0);
-        for (int b = 0; b < 4; b++) {
-            shortNote(x, b, 1);
-            shortNote(x, b, 2);
-        }
-        shortNote(x, 1, 3);
-        return x;
-    }
-
     private static void newObject() {
         check.part("promise 1");
-        MessageBank x = new MessageBank();
+        Bank x = new Bank();
         int[] totals = {0, 0, 0, 40, -1, 0};
         for (int what = 0; what < totals.length; what++) {
             int w = what;
@@ -107,14 +47,14 @@ public final class PromisesTest {
         }
         check.noSuchElement("used 0", () -> x.used(0));
         check.noSuchElement("duration 0", () -> x.duration(0));
-        MessageBank other = withBoxes(7);
+        Bank other = Bank.withBoxes(7);
         check.due("boxes of one object", 1, () -> other.total(0));
         check.due("boxes of another", 0, () -> x.total(0));
     }
 
     private static void box() {
         check.part("promise 2");
-        MessageBank x = new MessageBank();
+        Bank x = new Bank();
         check.illegalArgument("quota -1", () -> x.box(-1));
         check.illegalArgument("quota 501", () -> x.box(501));
         check.illegalArgument("quota least", () -> x.box(MIN));
@@ -132,58 +72,58 @@ public final class PromisesTest {
 
     private static void call() {
         check.part("promise 3");
-        MessageBank x = withBoxes(9, 9);
-        check.noSuchElement("box -1", () -> call(x, 0, -1, 0));
-        check.noSuchElement("box 2", () -> call(x, 0, 2, 0));
-        check.noSuchElement("box before line and kind", () -> call(x, 3, MAX, 4));
-        check.illegalArgument("line -1", () -> call(x, -1, 0, 0));
-        check.illegalArgument("line 3", () -> call(x, 3, 0, 0));
-        check.illegalArgument("kind -1", () -> call(x, 0, 0, -1));
-        check.illegalArgument("kind 4", () -> call(x, 0, 0, 4));
+        Bank x = Bank.withBoxes(9, 9);
+        check.noSuchElement("box -1", () -> x.call(0, -1, 0));
+        check.noSuchElement("box 2", () -> x.call(0, 2, 0));
+        check.noSuchElement("box before line and kind", () -> x.call(3, MAX, 4));
+        check.illegalArgument("line -1", () -> x.call(-1, 0, 0));
+        check.illegalArgument("line 3", () -> x.call(3, 0, 0));
+        check.illegalArgument("kind -1", () -> x.call(0, 0, -1));
+        check.illegalArgument("kind 4", () -> x.call(0, 0, 4));
         check.due("no line is busy", 0, () -> x.total(5));
-        check.due("a message", 0, () -> call(x, 1, 0, 0));
+        check.due("a message", 0, () -> x.call(1, 0, 0));
         check.due("line 1 is busy", 2, () -> x.total(5));
-        check.illegalState("a busy line", () -> call(x, 1, 1, 3));
-        check.illegalArgument("kind before busy", () -> call(x, 1, 1, 4));
-        check.noSuchElement("box before busy", () -> call(x, 1, 2, 0));
-        check.due("a greeting", 0, () -> call(x, 0, 1, 2));
-        check.due("a preface", 0, () -> call(x, 2, 1, 3));
+        check.illegalState("a busy line", () -> x.call(1, 1, 3));
+        check.illegalArgument("kind before busy", () -> x.call(1, 1, 4));
+        check.noSuchElement("box before busy", () -> x.call(1, 2, 0));
+        check.due("a greeting", 0, () -> x.call(0, 1, 2));
+        check.due("a preface", 0, () -> x.call(2, 1, 3));
         check.due("all are busy", 7, () -> x.total(5));
-        frame(x, 0, 100);
-        frame(x, 2, 100);
-        frame(x, 2, 100);
+        x.frame(0, 100);
+        x.frame(2, 100);
+        x.frame(2, 100);
         x.hang(0);
         x.hang(2);
         check.due("greeting 0", 0, () -> x.length(1, 0));
         check.due("greeting 1", 8, () -> x.length(1, 1));
         check.due("preface", 16, () -> x.length(1, 2));
         check.due("of the other box", 0, () -> x.length(0, 1));
-        check.due("again on a line that was hung up", 0, () -> call(x, 0, 0, 1));
+        check.due("again on a line that was hung up", 0, () -> x.call(0, 0, 1));
     }
 
     private static void callWhenFull() {
         check.part("promise 3, 16 messages");
-        MessageBank x = withBoxes(500, 500);
+        Bank x = Bank.withBoxes(500, 500);
         for (int i = 0; i < 14; i++) {
-            shortNote(x, i % 2, 0);
+            x.shortNote(i % 2, 0);
         }
-        check.due("the fifteenth", 0, () -> call(x, 0, 0, 0));
-        check.due("the sixteenth", 0, () -> call(x, 1, 1, 0));
-        check.illegalState("a seventeenth", () -> call(x, 2, 0, 0));
+        check.due("the fifteenth", 0, () -> x.call(0, 0, 0));
+        check.due("the sixteenth", 0, () -> x.call(1, 1, 0));
+        check.illegalState("a seventeenth", () -> x.call(2, 0, 0));
         check.illegalState("and none by forwarding", () -> x.forward(0, 0));
-        check.due("a greeting", 0, () -> call(x, 2, 0, 1));
-        check.illegalState("a message on the busy line", () -> call(x, 2, 0, 0));
+        check.due("a greeting", 0, () -> x.call(2, 0, 1));
+        check.illegalState("a message on the busy line", () -> x.call(2, 0, 0));
         check.due("the greeting is dropped", -1, () -> x.hang(2));
         check.due("a message of nothing", -1, () -> x.hang(0));
-        check.due("room for one", 0, () -> call(x, 2, 0, 0));
-        check.illegalState("but one", () -> call(x, 0, 0, 0));
+        check.due("room for one", 0, () -> x.call(2, 0, 0));
+        check.illegalState("but one", () -> x.call(0, 0, 0));
         check.due("erased", 1, () -> x.erase(3));
-        check.due("room again", 0, () -> call(x, 0, 0, 0));
+        check.due("room again", 0, () -> x.call(0, 0, 0));
     }
 
     private static void sample() {
         check.part("promise 4");
-        MessageBank x = withBoxes(9);
+        Bank x = Bank.withBoxes(9);
         check.illegalArgument("line -1", () -> x.sample(-1, 0));
         check.illegalArgument("line 3", () -> x.sample(3, 0));
         check.illegalState("not busy", () -> x.sample(2, 0));
@@ -199,45 +139,11 @@ public final class PromisesTest {
         check.due("a block", 1, () -> x.block(0));
         x.hang(0);
         check.illegalState("hung up", () -> x.sample(0, 0));
-        clampedSamples();
-    }
-
-    private static void clampedSamples() {
-        MessageBank x = withBoxes(90);
-        int[] given = {32767, 32768, MAX, -32768, -32769, MIN};
-        for (int g : given) {
-            note(x, 0, 0, 0, g, 10);
-        }
-        for (int i = 0; i < 80; i += 13) {
-            int at = i;
-            int high = x.play(0, at);
-            check.due("32768 at " + at, high, () -> x.play(1, at));
-            check.due("greatest at " + at, high, () -> x.play(2, at));
-            int low = x.play(3, at);
-            check.due("-32769 at " + at, low, () -> x.play(4, at));
-            check.due("least at " + at, low, () -> x.play(5, at));
-        }
-        for (int i = 0; i < 80; i++) {
-            int at = i;
-            check.due("bounds at " + at, true, () -> x.play(0, at) <= 32767 && x.play(3, at) >= -32768);
-        }
-        check.due("the greatest is reached", true, () -> isHeard(x, 0, 80, 32767));
-        check.due("the least is reached", true, () -> isHeard(x, 3, 80, -32768));
-        check.due("the guess stays below 32768", true, () -> x.play(0, 79) <= 32767 && x.play(0, 79) > 32000);
-        check.due("the guess stays above -32769", true, () -> x.play(3, 79) >= -32768 && x.play(3, 79) < -32000);
-    }
-
-    private static boolean isHeard(MessageBank x, int message, int samples, int sound) {
-        boolean heard = false;
-        for (int i = 0; i < samples; i++) {
-            heard |= x.play(message, i) == sound;
-        }
-        return heard;
     }
 
     private static void sampleCoding() {
         check.part("promise 4, coding");
-        MessageBank x = withBoxes(500);
+        Bank x = Bank.withBoxes(500);
         x.call(0, 0, 0);
         int[] spoken = {0, 100, 300, -200, 1000, 5000, -5000, 40000};
         int[] sounds = {2, 32, 107, -66, 317, 1150, -653, 3225};
@@ -263,7 +169,7 @@ public final class PromisesTest {
     }
 
     private static void partsAndChangesOfTheIndex() {
-        MessageBank x = withBoxes(9);
+        Bank x = Bank.withBoxes(9);
         // 24: 16 and 8 are told, nothing is left for 4; the index grows by 6, to step 32.
         // 56: 16 and 8 of d = 30 are not reached by 32, but by 16 and 8: 3 is told, the index falls to 5.
         int[] spoken = {24, 56, 54, 57, 50, 50, 60, 60};
@@ -280,9 +186,9 @@ public final class PromisesTest {
     }
 
     private static void goesOnFromFrameToFrame() {
-        MessageBank x = withBoxes(9);
-        note(x, 0, 0, 0, 1000, 2);
-        note(x, 0, 0, 0, 1000, 1);
+        Bank x = Bank.withBoxes(9);
+        x.note(0, 0, 0, 1000, 2);
+        x.note(0, 0, 0, 1000, 1);
         for (int i = 0; i < 8; i++) {
             int at = i;
             check.due("the second recording begins anew at " + at, x.play(0, at), () -> x.play(1, at));
@@ -291,7 +197,7 @@ public final class PromisesTest {
     }
 
     private static void indexStaysInBounds() {
-        MessageBank x = withBoxes(90);
+        Bank x = Bank.withBoxes(90);
         x.call(0, 0, 0);
         for (int i = 0; i < 96; i++) {
             x.sample(0, i < 48 ? i % 2 * 65535 - 32768 : 0);
@@ -312,28 +218,28 @@ public final class PromisesTest {
 
     private static void sampleGaps() {
         check.part("promise 4, gaps");
-        MessageBank x = withBoxes(500);
+        Bank x = Bank.withBoxes(500);
         x.call(0, 0, 0);
-        frames(x, 0, 500, 3);
-        frame(x, 0, 48);
+        x.frames(0, 500, 3);
+        x.frame(0, 48);
         check.due("one quiet frame", 4, () -> x.block(0));
-        frame(x, 0, -48);
+        x.frame(0, -48);
         check.due("two quiet frames", 1, () -> x.block(1));
         check.due("cost", 5, () -> x.used(0));
-        frame(x, 0, 0);
+        x.frame(0, 0);
         check.due("a gap in the place of the first", 4, () -> x.block(0));
         check.due("the second is dropped, and its block free", 0, () -> x.block(1));
         check.due("cost of a gap of 3", 4, () -> x.used(0));
-        frame(x, 0, 1);
+        x.frame(0, 1);
         check.due("cost of a gap of 4", 4, () -> x.used(0));
-        frame(x, 0, 1);
+        x.frame(0, 1);
         check.due("cost of a gap of 5", 5, () -> x.used(0));
-        frames(x, 0, 1, 3);
+        x.frames(0, 1, 3);
         check.due("cost of a gap of 8", 5, () -> x.used(0));
-        frame(x, 0, 1);
+        x.frame(0, 1);
         check.due("cost of a gap of 9", 6, () -> x.used(0));
         check.due("still one entry", 4, () -> x.block(0));
-        frame(x, 0, 500);
+        x.frame(0, 500);
         check.due("an entry behind it", 1, () -> x.block(1));
         x.hang(0);
         check.due("duration", 8 * 13, () -> x.duration(0));
@@ -348,11 +254,11 @@ public final class PromisesTest {
     }
 
     private static void quietOrNot() {
-        MessageBank x = withBoxes(500);
-        note(x, 0, 0, 0, 49, 3);
-        note(x, 0, 0, 0, -49, 3);
-        note(x, 0, 0, 0, 48, 2);
-        note(x, 0, 0, 0, -48, 3);
+        Bank x = Bank.withBoxes(500);
+        x.note(0, 0, 0, 49, 3);
+        x.note(0, 0, 0, -49, 3);
+        x.note(0, 0, 0, 48, 2);
+        x.note(0, 0, 0, -48, 3);
         int[] cost = {3, 3, 2, 1};
         for (int i = 0; i < 4; i++) {
             int before = x.used(0);
@@ -360,21 +266,21 @@ public final class PromisesTest {
             x.erase(number);
             check.due("cost of " + number, before - cost[number], () -> x.used(0));
         }
-        MessageBank y = withBoxes(500);
+        Bank y = Bank.withBoxes(500);
         y.call(0, 0, 0);
-        frames(y, 0, 0, 2);
-        frame(y, 0, 60);
-        frames(y, 0, 0, 2);
+        y.frames(0, 0, 2);
+        y.frame(0, 60);
+        y.frames(0, 0, 2);
         check.due("runs of two are coded", 5, () -> y.used(0));
         y.hang(0);
         y.call(0, 0, 0);
-        frames(y, 0, 0, 3);
+        y.frames(0, 0, 3);
         check.due("a gap alone is an entry", 1, () -> y.block(2));
         y.hang(0);
         check.due("a gap alone lasts", 24, () -> y.duration(1));
         check.due("a gap alone sounds", 0, () -> y.play(1, 23));
         check.due("one loud sample makes a frame loud", 3, () -> {
-            MessageBank z = withBoxes(500);
+            Bank z = Bank.withBoxes(500);
             z.call(0, 0, 0);
             for (int i = 0; i < 24; i++) {
                 z.sample(0, i % 8 == 7 ? 49 : 0);
@@ -385,9 +291,9 @@ public final class PromisesTest {
 
     private static void sampleQuota() {
         check.part("promise 4, quota");
-        MessageBank x = withBoxes(2, 0);
+        Bank x = Bank.withBoxes(2, 0);
         x.call(0, 0, 0);
-        check.due("up to the quota", false, frames2(x, 0, 300));
+        check.due("up to the quota", false, () -> x.frames(0, 300, 2));
         check.due("seven more", false, () -> {
             boolean ended = false;
             for (int i = 0; i < 7; i++) {
@@ -397,64 +303,60 @@ public final class PromisesTest {
         });
         check.due("the eighth", true, () -> x.sample(0, 300));
         check.due("and all behind it", true, () -> x.sample(0, 0));
-        check.due("quiet ones too", true, () -> frame(x, 0, 0));
+        check.due("quiet ones too", true, () -> x.frame(0, 0));
         check.due("used", 2, () -> x.used(0));
         x.call(1, 0, 0);
-        check.due("another line of the box", true, () -> frame(x, 1, 0));
+        check.due("another line of the box", true, () -> x.frame(1, 0));
         x.call(2, 1, 1);
-        check.due("a greeting has no quota", false, () -> frame(x, 2, 300));
+        check.due("a greeting has no quota", false, () -> x.frame(2, 300));
         check.due("the frame that did not fit is dropped", -1, () -> x.hang(1));
         x.hang(0);
         check.due("the rest stands", 16, () -> x.duration(0));
         x.hang(2);
         x.call(2, 1, 3);
-        check.due("a preface has no quota", false, () -> frame(x, 2, 300));
+        check.due("a preface has no quota", false, () -> x.frame(2, 300));
         gapAtTheQuota();
         endedIsEnded();
     }
 
     private static void endedIsEnded() {
-        MessageBank x = withBoxes(3);
-        note(x, 0, 0, 0, 300, 2);
+        Bank x = Bank.withBoxes(3);
+        x.note(0, 0, 0, 300, 2);
         x.call(0, 0, 0);
-        frame(x, 0, 300);
-        check.due("no room", true, () -> frame(x, 0, 300));
+        x.frame(0, 300);
+        check.due("no room", true, () -> x.frame(0, 300));
         x.erase(0);
         check.due("used", 1, () -> x.used(0));
-        check.due("room again, but it has ended", true, () -> frame(x, 0, 300));
+        check.due("room again, but it has ended", true, () -> x.frame(0, 300));
         x.sample(0, 300);
         check.due("its number", 1, () -> x.hang(0));
         check.due("no more is taken", 8, () -> x.duration(1));
         x.call(0, 0, 0);
-        check.due("the next one on the line begins anew", false, () -> frames(x, 0, 300, 2));
-    }
-
-    private static Check.Call frames2(MessageBank x, int line, int value) {
-        return () -> frames(x, line, value, 2);
+        check.due("the next one on the line begins anew", false, () -> x.frames(0, 300, 2));
     }
 
     private static void gapAtTheQuota() {
-        MessageBank y = withBoxes(2);
+        Bank y = Bank.withBoxes(2);
         y.call(0, 0, 0);
-        check.due("a gap of 8 fits in 2", false, () -> frames(y, 0, 0, 8));
-        check.due("a gap of 9 does not", true, () -> frame(y, 0, 0));
+        check.due("a gap of 8 fits in 2", false, () -> y.frames(0, 0, 8));
+        check.due("a gap of 9 does not", true, () -> y.frame(0, 0));
         y.hang(0);
         check.due("it lasts 8 frames", 64, () -> y.duration(0));
         y.erase(0);
         y.call(0, 0, 0);
         y.call(1, 0, 0);
-        frames(y, 0, 0, 2);
+        y.frames(0, 0, 2);
         check.due("the quota is used", 2, () -> y.used(0));
-        check.due("the third quiet frame makes it less", false, () -> frame(y, 0, 0));
-        check.due("so that another line goes on", false, () -> frame(y, 1, 0));
-        check.due("gap of 4", false, () -> frame(y, 0, 0));
-        check.due("no gap of 5", true, () -> frame(y, 0, 0));
+        check.due("the third quiet frame makes it less", false, () -> y.frame(0, 0));
+        check.due("so that another line goes on", false, () -> y.frame(1, 0));
+        check.due("gap of 4", false, () -> y.frame(0, 0));
+        check.due("no gap of 5", true, () -> y.frame(0, 0));
         check.due("used", 2, () -> y.used(0));
     }
 
     private static void sampleWithoutBlocks() {
         check.part("promise 4, no free block");
-        MessageBank x = withoutFreeBlocks();
+        Bank x = Bank.withoutFreeBlocks();
         check.due("no free block", 0, () -> x.total(3));
         check.due("the greatest", 39, () -> x.total(4));
         x.call(0, 0, 1);
@@ -465,20 +367,20 @@ public final class PromisesTest {
         check.due("nothing was recorded", -1, () -> x.hang(0));
         check.due("the greeting of before stays", 8, () -> x.length(0, 0));
         check.due("two blocks become free", 2, () -> x.erase(x.next(2, 0, 0)));
-        int first = leastFree(x, 0);
-        int second = leastFree(x, first + 1);
+        int first = x.leastFree(0);
+        int second = x.leastFree(first + 1);
         x.call(0, 3, 0);
-        check.due("four frames in one block", false, () -> frames(x, 0, 90, 4));
+        check.due("four frames in one block", false, () -> x.frames(0, 90, 4));
         check.due("the free one with the least number", 4, () -> x.block(first));
         x.call(1, 3, 3);
-        check.due("a frame in the other", false, () -> frame(x, 1, 90));
+        check.due("a frame in the other", false, () -> x.frame(1, 90));
         check.due("its entries", 1, () -> x.block(second));
-        check.due("no block for the fifth", true, () -> frame(x, 0, 90));
-        check.due("but places in the other", false, () -> frames(x, 1, 0, 2));
-        check.due("and for the gap", false, () -> frames(x, 1, 0, 3));
+        check.due("no block for the fifth", true, () -> x.frame(0, 90));
+        check.due("but places in the other", false, () -> x.frames(1, 0, 2));
+        check.due("and for the gap", false, () -> x.frames(1, 0, 3));
         check.due("its entries with a gap", 2, () -> x.block(second));
-        check.due("two more places", false, () -> frames(x, 1, 90, 2));
-        check.due("and no block", true, () -> frame(x, 1, 90));
+        check.due("two more places", false, () -> x.frames(1, 90, 2));
+        check.due("and no block", true, () -> x.frame(1, 90));
         check.due("used by the message", 4, () -> x.block(first));
         int made = x.hang(0);
         check.due("four frames stand", 32, () -> x.duration(made));
@@ -491,34 +393,26 @@ public final class PromisesTest {
 
     /** A gap that begins in a full block gives the last block back, and grows when none is free. */
     private static void gapWithoutBlocks() {
-        MessageBank x = withoutFreeBlocks();
+        Bank x = Bank.withoutFreeBlocks();
         x.erase(x.next(2, 0, 0));
         x.call(0, 0, 2);
-        frames(x, 0, 90, 3);
-        check.due("two quiet frames take the last block", false, () -> frames(x, 0, 0, 2));
+        x.frames(0, 90, 3);
+        check.due("two quiet frames take the last block", false, () -> x.frames(0, 0, 2));
         check.due("none is free", 0, () -> x.total(3));
-        check.due("a third quiet one fits", false, () -> frame(x, 0, 0));
+        check.due("a third quiet one fits", false, () -> x.frame(0, 0));
         check.due("one is free", 1, () -> x.total(3));
         x.call(1, 1, 2);
-        check.due("another takes it", false, () -> frame(x, 1, 90));
+        check.due("another takes it", false, () -> x.frame(1, 90));
         check.due("none is free again", 0, () -> x.total(3));
-        check.due("the gap grows", false, () -> frames(x, 0, 0, 5));
-        check.due("a loud frame has no block", true, () -> frame(x, 0, 90));
+        check.due("the gap grows", false, () -> x.frames(0, 0, 5));
+        check.due("a loud frame has no block", true, () -> x.frame(0, 90));
         x.hang(0);
         check.due("what stands", 88, () -> x.length(0, 1));
     }
 
-    private static int leastFree(MessageBank x, int from) {
-        int b = from;
-        while (x.block(b) > 0) {
-            b++;
-        }
-        return b;
-    }
-
     private static void hang() {
         check.part("promise 5");
-        MessageBank x = withBoxes(9, 1);
+        Bank x = Bank.withBoxes(9, 1);
         check.illegalArgument("line -1", () -> x.hang(-1));
         check.illegalArgument("line 3", () -> x.hang(3));
         check.illegalState("not busy", () -> x.hang(0));
@@ -534,7 +428,7 @@ public final class PromisesTest {
         check.due("a new one", 0, () -> x.next(0, 0, 0));
         check.due("no line is busy", 0, () -> x.total(5));
         x.call(2, 0, 0);
-        frame(x, 2, 500);
+        x.frame(2, 500);
         check.due("a whole frame has none behind it", 1, () -> x.hang(2));
         check.due("of 8", 8, () -> x.duration(1));
         partlyFilledFrames();
@@ -542,15 +436,15 @@ public final class PromisesTest {
     }
 
     private static void partlyFilledFrames() {
-        MessageBank x = withBoxes(9, 1);
+        Bank x = Bank.withBoxes(9, 1);
         x.call(0, 0, 0);
-        frames(x, 0, 0, 2);
+        x.frames(0, 0, 2);
         x.sample(0, 40);
         check.due("the rest makes a gap", 0, () -> x.hang(0));
         check.due("cost of the gap", 1, () -> x.used(0));
         check.due("its samples", 24, () -> x.duration(0));
         x.call(0, 1, 0);
-        frame(x, 0, 200);
+        x.frame(0, 200);
         x.sample(0, 200);
         check.due("the rest does not fit", 1, () -> x.hang(0));
         check.due("it is dropped", 8, () -> x.duration(1));
@@ -568,13 +462,13 @@ public final class PromisesTest {
         }
     }
 
-    private static void greetingsTakeThePlace(MessageBank x) {
+    private static void greetingsTakeThePlace(Bank x) {
         for (int kind = 1; kind <= 3; kind++) {
             int which = kind - 1;
-            check.due("first of kind " + kind, 0, () -> note(x, 0, 1, which + 1, 700, 5));
+            check.due("first of kind " + kind, 0, () -> x.note(0, 1, which + 1, 700, 5));
             check.due("blocks", 36, () -> x.total(3));
             x.call(0, 1, kind);
-            frame(x, 0, 80);
+            x.frame(0, 80);
             check.due("the old one stays while it is spoken", 40, () -> x.length(1, which));
             check.due("the new one takes the place", 0, () -> x.hang(0));
             check.due("its length", 8, () -> x.length(1, which));
@@ -591,9 +485,9 @@ public final class PromisesTest {
 
     private static void next() {
         check.part("promise 6");
-        MessageBank x = withBoxes(50, 50);
+        Bank x = Bank.withBoxes(50, 50);
         for (int i = 0; i < 6; i++) {
-            shortNote(x, i == 2 ? 1 : 0, 0);
+            x.shortNote(i == 2 ? 1 : 0, 0);
         }
         x.mark(4, 1);
         x.mark(0, 1);
@@ -625,8 +519,8 @@ public final class PromisesTest {
 
     private static void mark() {
         check.part("promise 7");
-        MessageBank x = withBoxes(50);
-        shortNote(x, 0, 0);
+        Bank x = Bank.withBoxes(50);
+        x.shortNote(0, 0);
         check.due("to kept", 0, () -> x.mark(0, 2));
         check.due("to heard", 2, () -> x.mark(0, 1));
         check.due("the same", 1, () -> x.mark(0, 1));
@@ -642,9 +536,9 @@ public final class PromisesTest {
 
     private static void erase() {
         check.part("promise 8");
-        MessageBank x = withBoxes(90, 90);
-        note(x, 0, 0, 3, 600, 5);
-        note(x, 0, 0, 0, 600, 9);
+        Bank x = Bank.withBoxes(90, 90);
+        x.note(0, 0, 3, 600, 5);
+        x.note(0, 0, 0, 600, 9);
         check.due("forwarded", 1, () -> x.forward(0, 1));
         check.due("forwarded again", 2, () -> x.forward(0, 0));
         check.noSuchElement("message 3", () -> x.erase(3));
@@ -652,14 +546,14 @@ public final class PromisesTest {
         check.due("the recording is shared", 0, () -> x.erase(0));
         check.noSuchElement("erased twice", () -> x.erase(0));
         check.noSuchElement("and not there", () -> x.duration(0));
-        shortNote(x, 0, 3);
+        x.shortNote(0, 3);
         check.due("a preface that messages have stays", 112, () -> x.duration(1));
         check.due("the preface is shared", 0, () -> x.erase(1));
         check.due("nobody has them any more", 5, () -> x.erase(2));
         check.due("free blocks", 39, () -> x.total(3));
-        check.due("its number is not taken again", 3, () -> shortNote(x, 0, 0));
+        check.due("its number is not taken again", 3, () -> x.shortNote(0, 0));
         check.due("one block", 1, () -> x.erase(3));
-        check.due("numbers go on when none is there", 4, () -> shortNote(x, 1, 0));
+        check.due("numbers go on when none is there", 4, () -> x.shortNote(1, 0));
         x.forward(x.next(1, 0, 0), 1);
         check.due("used", 2, () -> x.used(1));
         x.erase(4);
@@ -668,14 +562,14 @@ public final class PromisesTest {
 
     private static void forward() {
         check.part("promise 9");
-        MessageBank x = withBoxes(50, 4, 0);
-        note(x, 0, 0, 0, 900, 1);
+        Bank x = Bank.withBoxes(50, 4, 0);
+        x.note(0, 0, 0, 900, 1);
         x.mark(0, 2);
         check.due("without a preface", 1, () -> x.forward(0, 1));
         check.due("it is new", 1, () -> x.next(1, 0, 0));
         check.due("the other one stays where it is", 0, () -> x.next(0, 2, 0));
-        note(x, 0, 0, 3, 100, 1);
-        note(x, 0, 1, 3, -100, 2);
+        x.note(0, 0, 3, 100, 1);
+        x.note(0, 1, 3, -100, 2);
         check.due("with the preface of its box", 2, () -> x.forward(0, 1));
         check.due("the preface first", 30, () -> x.play(2, 0));
         check.due("then the recording", x.play(0, 0), () -> x.play(2, 8));
@@ -698,22 +592,22 @@ public final class PromisesTest {
     }
 
     private static void forwardUpToTheQuota() {
-        MessageBank x = withBoxes(50, 3);
-        note(x, 0, 0, 0, 900, 2);
+        Bank x = Bank.withBoxes(50, 3);
+        x.note(0, 0, 0, 900, 2);
         x.call(1, 1, 0);
-        frame(x, 1, 900);
+        x.frame(1, 900);
         check.due("just the quota, with what is being spoken", 1, () -> x.forward(0, 1));
         check.due("used", 3, () -> x.used(1));
-        check.due("the line finds no room", true, () -> frame(x, 1, 900));
+        check.due("the line finds no room", true, () -> x.frame(1, 900));
         x.erase(1);
-        note(x, 0, 0, 3, 900, 1);
+        x.note(0, 0, 3, 900, 1);
         check.illegalState("the preface is too much", () -> x.forward(0, 1));
         check.due("nothing changed", 1, () -> x.used(1));
     }
 
     private static void forwardWhenFull() {
-        MessageBank x = withBoxes(500);
-        shortNote(x, 0, 0);
+        Bank x = Bank.withBoxes(500);
+        x.shortNote(0, 0);
         for (int i = 1; i < 15; i++) {
             int number = i;
             check.due("forward " + i, number, () -> x.forward(0, 0));
@@ -731,12 +625,12 @@ public final class PromisesTest {
 
     private static void duration() {
         check.part("promise 10");
-        MessageBank x = withBoxes(90);
-        note(x, 0, 0, 0, 0, 7);
+        Bank x = Bank.withBoxes(90);
+        x.note(0, 0, 0, 0, 7);
         check.due("a gap", 56, () -> x.duration(0));
-        note(x, 0, 0, 0, 70, 5);
+        x.note(0, 0, 0, 70, 5);
         check.due("five frames", 40, () -> x.duration(1));
-        note(x, 0, 0, 3, 0, 3);
+        x.note(0, 0, 3, 0, 3);
         x.forward(1, 0);
         check.due("with a preface", 64, () -> x.duration(2));
         check.due("the first has none", 40, () -> x.duration(1));
@@ -747,9 +641,9 @@ public final class PromisesTest {
 
     private static void play() {
         check.part("promise 11");
-        MessageBank x = withBoxes(90);
-        note(x, 0, 0, 0, 900, 6);
-        note(x, 0, 0, 3, -900, 1);
+        Bank x = Bank.withBoxes(90);
+        x.note(0, 0, 0, 900, 6);
+        x.note(0, 0, 3, -900, 1);
         x.forward(0, 0);
         check.due("the preface", -30, () -> x.play(1, 0));
         check.due("the message", 30, () -> x.play(1, 8));
@@ -768,11 +662,11 @@ public final class PromisesTest {
 
     private static void length() {
         check.part("promise 12");
-        MessageBank x = withBoxes(0, 9);
+        Bank x = Bank.withBoxes(0, 9);
         for (int i = 0; i < 3; i++) {
             int which = i;
             check.due("none " + which, 0, () -> x.length(0, which));
-            note(x, 0, 0, which + 1, 300, which + 1);
+            x.note(0, 0, which + 1, 300, which + 1);
         }
         for (int i = 0; i < 3; i++) {
             int which = i;
@@ -787,10 +681,10 @@ public final class PromisesTest {
 
     private static void greeting() {
         check.part("promise 13");
-        MessageBank x = withBoxes(0, 9);
-        note(x, 0, 0, 1, 300, 1);
-        note(x, 0, 0, 2, -300, 1);
-        note(x, 0, 0, 3, 0, 3);
+        Bank x = Bank.withBoxes(0, 9);
+        x.note(0, 0, 1, 300, 1);
+        x.note(0, 0, 2, -300, 1);
+        x.note(0, 0, 3, 0, 3);
         check.due("greeting 0", 30, () -> x.greeting(0, 0, 0));
         check.due("greeting 1", -30, () -> x.greeting(0, 1, 0));
         check.due("preface, a gap", 0, () -> x.greeting(0, 2, 23));
@@ -806,16 +700,16 @@ public final class PromisesTest {
 
     private static void used() {
         check.part("promise 14");
-        MessageBank x = withBoxes(90, 90);
+        Bank x = Bank.withBoxes(90, 90);
         check.due("nothing", 0, () -> x.used(0));
-        note(x, 0, 0, 1, 600, 3);
-        note(x, 0, 0, 3, 600, 2);
+        x.note(0, 0, 1, 600, 3);
+        x.note(0, 0, 3, 600, 2);
         check.due("greetings and preface are free", 0, () -> x.used(0));
         x.call(0, 0, 1);
-        frame(x, 0, 600);
+        x.frame(0, 600);
         check.due("while they are spoken too", 0, () -> x.used(0));
         x.call(1, 0, 0);
-        frame(x, 1, 600);
+        x.frame(1, 600);
         check.due("a message that is being spoken", 1, () -> x.used(0));
         check.due("not the other box", 0, () -> x.used(1));
         x.hang(1);
@@ -834,11 +728,11 @@ public final class PromisesTest {
 
     private static void quota() {
         check.part("promise 15");
-        MessageBank x = withBoxes(0, 500, 17);
+        Bank x = Bank.withBoxes(0, 500, 17);
         check.due("0", 0, () -> x.quota(0));
         check.due("500", 500, () -> x.quota(1));
         check.due("17", 17, () -> x.quota(2));
-        shortNote(x, 2, 0);
+        x.shortNote(2, 0);
         check.due("17 with a message", 17, () -> x.quota(2));
         check.noSuchElement("box 3", () -> x.quota(3));
         check.noSuchElement("box -1", () -> x.quota(-1));
@@ -846,14 +740,14 @@ public final class PromisesTest {
 
     private static void pack() {
         check.part("promise 16");
-        MessageBank x = withBoxes(90);
+        Bank x = Bank.withBoxes(90);
         check.due("nothing to move", 0, () -> x.pack(100));
         check.illegalArgument("-1", () -> x.pack(-1));
         check.illegalArgument("101", () -> x.pack(101));
         for (int i = 0; i < 3; i++) {
-            shortNote(x, 0, 0);
+            x.shortNote(0, 0);
         }
-        note(x, 0, 0, 0, 900, 10);
+        x.note(0, 0, 0, 900, 10);
         check.due("without a hole", 0, () -> x.pack(5));
         x.erase(0);
         x.erase(2);
@@ -881,22 +775,22 @@ public final class PromisesTest {
         check.due("all its blocks become free", 3, () -> x.erase(3));
         check.due("the other one is there", 8, () -> x.duration(1));
         check.due("free blocks", 39, () -> x.total(3));
-        MessageBank none = new MessageBank();
+        Bank none = new Bank();
         check.due("an empty bank", 0, () -> none.pack(100));
-        MessageBank full = withoutFreeBlocks();
+        Bank full = Bank.withoutFreeBlocks();
         check.due("a full bank", 0, () -> full.pack(100));
     }
 
     private static void packWhileSpoken() {
         check.part("promise 16, while it is spoken");
-        MessageBank x = withBoxes(90);
-        shortNote(x, 0, 0);
-        shortNote(x, 0, 0);
+        Bank x = Bank.withBoxes(90);
+        x.shortNote(0, 0);
+        x.shortNote(0, 0);
         x.call(0, 0, 0);
         x.call(1, 0, 1);
-        frames(x, 0, 400, 4);
-        frame(x, 0, 0);
-        frame(x, 1, 400);
+        x.frames(0, 400, 4);
+        x.frame(0, 0);
+        x.frame(1, 400);
         x.erase(0);
         x.erase(1);
         check.due("greatest", 4, () -> x.total(4));
@@ -904,13 +798,13 @@ public final class PromisesTest {
         check.due("the greeting's", 1, () -> x.block(0));
         check.due("the message's second", 1, () -> x.block(1));
         check.due("the message's first", 4, () -> x.block(2));
-        frame(x, 0, 0);
+        x.frame(0, 0);
         check.due("it goes on where it is", 2, () -> x.block(1));
-        frame(x, 0, 0);
+        x.frame(0, 0);
         check.due("a gap", 1, () -> x.block(1));
-        frames(x, 0, 400, 4);
+        x.frames(0, 400, 4);
         check.due("a new block is the least free", 1, () -> x.block(3));
-        frame(x, 1, 400);
+        x.frame(1, 400);
         check.due("the greeting too", 2, () -> x.block(0));
         check.due("its number", 2, () -> x.hang(0));
         x.hang(1);
@@ -924,7 +818,7 @@ public final class PromisesTest {
 
     private static void block() {
         check.part("promise 17");
-        MessageBank x = withBoxes(90, 90);
+        Bank x = Bank.withBoxes(90, 90);
         check.outOfBounds("-1", () -> x.block(-1));
         check.outOfBounds("40", () -> x.block(40));
         check.outOfBounds("least", () -> x.block(MIN));
@@ -932,10 +826,10 @@ public final class PromisesTest {
         x.call(0, 0, 0);
         for (int i = 1; i <= 4; i++) {
             int entries = i;
-            frame(x, 0, 100);
+            x.frame(0, 100);
             check.due("entries " + i, entries, () -> x.block(0));
         }
-        frame(x, 0, 100);
+        x.frame(0, 100);
         check.due("full", 4, () -> x.block(0));
         check.due("the next", 1, () -> x.block(1));
         x.hang(0);
@@ -947,13 +841,13 @@ public final class PromisesTest {
         x.erase(1);
         check.due("free", 0, () -> x.block(0));
         check.due("free too", 0, () -> x.block(1));
-        note(x, 0, 0, 0, 0, 5);
+        x.note(0, 0, 0, 0, 5);
         check.due("a gap is one entry", 1, () -> x.block(0));
     }
 
     private static void step() {
         check.part("promise 18");
-        MessageBank x = new MessageBank();
+        Bank x = new Bank();
         int[] steps = {16, 18, 20, 23, 26, 29, 32, 36, 40, 45, 50, 56, 62, 69, 76, 84, 93, 103, 114, 126, 139,
             153, 169, 186, 205, 226, 249, 274, 302, 333, 367, 404, 445, 490, 540, 595, 655, 721, 794, 874, 962,
             1059, 1165, 1282, 1411, 1553, 1709, 1880, 2069};
@@ -969,14 +863,14 @@ public final class PromisesTest {
 
     private static void total() {
         check.part("promise 19");
-        MessageBank x = withBoxes(90, 90, 90);
+        Bank x = Bank.withBoxes(90, 90, 90);
         x.call(2, 0, 0);
-        frame(x, 2, 100);
+        x.frame(2, 100);
         int[] spoken = {3, 0, 0, 39, 0, 4};
         totals(x, "being spoken", spoken);
         x.hang(2);
-        note(x, 0, 1, 1, 100, 5);
-        note(x, 0, 0, 3, 100, 1);
+        x.note(0, 1, 1, 100, 5);
+        x.note(0, 0, 3, 100, 1);
         x.forward(0, 1);
         x.forward(0, 2);
         x.call(0, 1, 1);
@@ -984,7 +878,7 @@ public final class PromisesTest {
         int[] shared = {3, 3, 3, 36, 3, 3};
         totals(x, "shared", shared);
         x.erase(0);
-        note(x, 2, 0, 3, 100, 1);
+        x.note(2, 0, 3, 100, 1);
         int[] kept = {3, 2, 4, 35, 4, 3};
         totals(x, "kept by messages", kept);
         x.erase(1);
@@ -996,7 +890,7 @@ public final class PromisesTest {
         }
     }
 
-    private static void totals(MessageBank x, String when, int[] due) {
+    private static void totals(Bank x, String when, int[] due) {
         for (int i = 0; i < due.length; i++) {
             int what = i;
             check.due(when + ", total " + what, due[what], () -> x.total(what));
