@@ -996,6 +996,22 @@ public final class PromiseEdgesTest {
         check.due("nobody has the two", 3, () -> x.total(2));
         Bank full = Bank.withoutFreeBlocks();
         check.due("one in each block", 40, () -> full.total(2));
+        nobodyHasWhatIsBeingSpoken();
+    }
+
+    private static void nobodyHasWhatIsBeingSpoken() {
+        check.sentence("Terms", "nobody (message, greeting or preface of a box) has it");
+        for (int k = 0; k <= 3; k++) {
+            int kind = k;
+            Bank x = Bank.withBoxes(9);
+            x.shortNote(0, kind);
+            x.call(1, 0, kind);
+            x.frames(1, LOUD, 2);
+            check.due("one of kind " + kind + ", and another is being spoken", 1, () -> x.total(2));
+            check.due("whose block is used all the same", "1 2", x::blocks);
+            x.hang(1);
+            check.due("kind " + kind + " when it is hung up", kind == 0 ? 2 : 1, () -> x.total(2));
+        }
     }
 
     private static void totalOfBlocks() {
